@@ -151,6 +151,9 @@ public final class WinProofs {
     }
 
     public int count(int what) {
+        if (what >= 3 && what <= 9) {
+            world.prepare();
+        }
         switch (what) {
             case 0:
                 return world.states;
@@ -165,11 +168,11 @@ public final class WinProofs {
                 findAim();
                 return wins.aimStates;
             case 5:
-                return countNumbered(MAY);
+                return countNumbered(findNumbers(MAY));
             case 6:
-                return countNumbered(MUST);
+                return countNumbered(findNumbers(MUST));
             case 7:
-                return countNumbered(FAIR);
+                return countNumbered(findNumbers(FAIR));
             case 8:
                 return countDead();
             case 9:
@@ -186,6 +189,7 @@ public final class WinProofs {
         if (!world.isState(state) || what < 0 || what > 4) {
             return BAD;
         }
+        world.prepare();
         if (what == 0) {
             findReached();
             return reach.steps[state];
@@ -201,6 +205,7 @@ public final class WinProofs {
         if (!world.isState(state) || what < MAY || what > FAIR) {
             return BAD;
         }
+        world.prepare();
         return wins.leastAct(world, findNumbers(what), state, what);
     }
 
@@ -208,6 +213,7 @@ public final class WinProofs {
         if (what < 0 || what > 2) {
             return BAD;
         }
+        world.prepare();
         int[] may = findNumbers(MAY);
         if (i < 0 || i >= may[origin]) {
             return NONE;
@@ -228,6 +234,7 @@ public final class WinProofs {
     }
 
     public long plays() {
+        world.prepare();
         findReached();
         findAim();
         int fewest = MOST_STATES;
@@ -244,6 +251,7 @@ public final class WinProofs {
     }
 
     public int needed() {
+        world.prepare();
         findAim();
         if (neededMade < changes.latest) {
             neededActs = 0;
@@ -261,6 +269,7 @@ public final class WinProofs {
         if (!world.isThing(t) || v < 0 || v >= world.sizes[t]) {
             return BAD;
         }
+        world.prepare();
         findAim();
         return search.wins(world, wins.inAim, origin, NONE, t, v) ? 0 : 1;
     }
@@ -269,6 +278,7 @@ public final class WinProofs {
         if (!world.isThing(t)) {
             return BAD;
         }
+        world.prepare();
         findReached();
         int seen = 0;
         for (int s = 0; s < world.states; s++) {
@@ -311,6 +321,7 @@ public final class WinProofs {
         if (what < 0 || what > 3) {
             return BAD;
         }
+        world.prepare();
         findAim();
         if (shield.made < changes.latest) {
             shield.judge(world, wins.inAim, origin);
@@ -337,7 +348,6 @@ public final class WinProofs {
     }
 
     private void findReached() {
-        world.prepare();
         if (reach.made < Math.max(changes.world, changes.start)) {
             reach.spread(world, origin);
             reach.made = changes.latest;
@@ -345,7 +355,6 @@ public final class WinProofs {
     }
 
     private void findAim() {
-        world.prepare();
         if (wins.aimMade < Math.max(changes.world, changes.aim)) {
             wins.findAim(world, goal);
             wins.aimMade = changes.latest;
@@ -369,8 +378,7 @@ public final class WinProofs {
         }
     }
 
-    private int countNumbered(int what) {
-        int[] numbers = findNumbers(what);
+    private int countNumbered(int[] numbers) {
         int many = 0;
         for (int s = 0; s < world.states; s++) {
             if (numbers[s] != NONE) {
@@ -478,25 +486,22 @@ public final class WinProofs {
 
         boolean hold(int packed) {
             for (int i = 0; i < size; i++) {
-                if (!holds(i, packed)) {
+                int is = valueIn(packed, thing[i]);
+                boolean holds;
+                if (op[i] == IS) {
+                    holds = is == value[i];
+                } else if (op[i] == IS_NOT) {
+                    holds = is != value[i];
+                } else if (op[i] == IS_AS) {
+                    holds = is == valueIn(packed, value[i]);
+                } else {
+                    holds = is < value[i];
+                }
+                if (!holds) {
                     return false;
                 }
             }
             return true;
-        }
-
-        private boolean holds(int i, int packed) {
-            int is = valueIn(packed, thing[i]);
-            switch (op[i]) {
-                case IS:
-                    return is == value[i];
-                case IS_NOT:
-                    return is != value[i];
-                case IS_AS:
-                    return is == valueIn(packed, value[i]);
-                default:
-                    return is < value[i];
-            }
         }
 
         boolean isLastOfItsThing(int i) {

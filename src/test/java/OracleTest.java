@@ -26,6 +26,8 @@ public final class OracleTest {
         final List<Clause> goal = new ArrayList<>();
         final List<List<Clause>> parts = new ArrayList<>();
         int start = 0;
+        /** Kept only until a thing or an act changes. */
+        int[][][] known = null;
 
         int states() {
             int all = 1;
@@ -106,6 +108,13 @@ public final class OracleTest {
         }
 
         int[][][] edges() {
+            if (known == null) {
+                known = allEdges();
+            }
+            return known;
+        }
+
+        int[][][] allEdges() {
             int n = states();
             int[][][] to = new int[n][acts.size()][];
             for (int s = 0; s < n; s++) {
@@ -265,6 +274,9 @@ public final class OracleTest {
 
         /** Row d: how many rows of d steps lead from each state into THE AIM. */
         List<BigInteger[]> rowsToAim() {
+            if (!canWin(NONE, NONE, NONE)) {
+                return null;
+            }
             int[][][] to = edges();
             boolean[] aim = inAim();
             List<BigInteger[]> rows = new ArrayList<>();
@@ -285,7 +297,7 @@ public final class OracleTest {
                     return rows;
                 }
             }
-            return null;
+            throw new IllegalStateException();
         }
 
         boolean canWin(int withoutAct, int t, int v) {
@@ -348,6 +360,7 @@ public final class OracleTest {
             goal.clear();
             parts.clear();
             start = 0;
+            known = null;
             return had;
         }
 
@@ -359,6 +372,7 @@ public final class OracleTest {
                 return FULL;
             }
             sizes.add(size);
+            known = null;
             return sizes.size() - 1;
         }
 
@@ -376,6 +390,7 @@ public final class OracleTest {
                 return FULL;
             }
             acts.add(new Act());
+            known = null;
             acts.get(acts.size() - 1).outcomes.add(new ArrayList<>());
             return acts.size() - 1;
         }
@@ -388,6 +403,7 @@ public final class OracleTest {
                 return FULL;
             }
             acts.get(a).outcomes.add(new ArrayList<>());
+            known = null;
             return acts.get(a).outcomes.size() - 1;
         }
 
@@ -396,6 +412,7 @@ public final class OracleTest {
                 return FULL;
             }
             to.add(new Clause(t, op, v));
+            known = null;
             return to.size();
         }
 
@@ -431,6 +448,7 @@ public final class OracleTest {
                 return NONE;
             }
             acts.remove(acts.size() - 1);
+            known = null;
             return acts.size();
         }
 
@@ -786,27 +804,42 @@ public final class OracleTest {
         }
     }
 
+    private void buildAct() {
+        callAct();
+        int a = y.acts.size() - 1;
+        for (int j = dice.below(3); j > 0; j--) {
+            due("outcome " + a, x.outcome(a), y.outcome(a));
+        }
+        for (int j = dice.below(3); j > 0 && things() > 0; j--) {
+            int t = dice.below(things());
+            int op = dice.oneIn(3) ? dice.below(4) : dice.below(2);
+            int v = op == 2 ? dice.below(things()) : dice.below(y.sizes.get(t));
+            due("when " + a + " " + t + " " + op + " " + v, x.when(a, t, op, v), y.when(a, t, op, v));
+        }
+        for (int k = 0; k < y.acts.get(a).outcomes.size(); k++) {
+            for (int j = dice.below(4); j > 0 && things() > 0; j--) {
+                int t = dice.below(things());
+                int op = dice.oneIn(2) ? 2 : dice.below(3);
+                int v = op == 1 ? dice.below(things()) : dice.below(y.sizes.get(t));
+                due("effect " + a + " " + k + " " + t + " " + op + " " + v,
+                        x.effect(a, k, t, op, v), y.effect(a, k, t, op, v));
+            }
+        }
+    }
+
     private void build(int thingCount, int actCount) {
         for (int i = 0; i < thingCount; i++) {
             callThing();
         }
         for (int i = 0; i < actCount; i++) {
-            callAct();
-            for (int j = dice.below(3); j > 0; j--) {
-                callOutcome();
-            }
+            buildAct();
         }
-        for (int j = 0; j < 3 * actCount; j++) {
-            callWhen();
-            callEffect();
-            callEffect();
+        for (int t = 0; t < Math.min(things(), 1 + dice.below(4)); t++) {
+            int v = dice.below(y.sizes.get(t));
+            due("aim " + t + " 0 " + v, x.aim(t, 0, v), y.aim(t, 0, v));
         }
-        for (int j = dice.below(3); j >= 0; j--) {
-            callAim();
-        }
-        for (int j = dice.below(3); j > 0; j--) {
+        for (int j = dice.below(4); j > 0; j--) {
             due("cover", x.cover(), y.cover());
-            callPart();
             callPart();
         }
         callStart();
@@ -821,11 +854,8 @@ public final class OracleTest {
             for (int what = 0; what < 4; what++) {
                 due("of " + s + " " + what, x.of(s, what), rows[what][s]);
             }
-            due("of " + s + " 4", x.of(s, 4), least.computeIfAbsent(rows[4][s], k -> -1) < 0 ? s : least.get(rows[4][s]));
             least.putIfAbsent(rows[4][s], s);
-            if (least.get(rows[4][s]) < 0) {
-                least.put(rows[4][s], s);
-            }
+            due("of " + s + " 4", x.of(s, 4), least.get(rows[4][s]));
         }
         for (int j = 0; j < 20; j++) {
             int s = dice.below(n);
