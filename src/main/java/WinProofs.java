@@ -699,8 +699,9 @@ public final class WinProofs {
             return acts[actOf(edge)].outcomes[outcomeOf(edge)].to[stateOf(edge)];
         }
 
+        /** Unpacks the edge itself, as it is asked once an edge, below many other calls. */
         int nextInto(int edge) {
-            return acts[actOf(edge)].outcomes[outcomeOf(edge)].next[stateOf(edge)];
+            return acts[edge >> ACT_SHIFT].outcomes[(edge >> STATE_BITS) & 3].next[edge & (MOST_STATES - 1)];
         }
 
         void prepare() {
@@ -1164,32 +1165,25 @@ public final class WinProofs {
 
         private void settle(World world, int b) {
             int changedEnd = from[b] + changedCount[b];
-            int acts = 0;
-            for (int i = from[b]; i < changedEnd; i++) {
-                acts |= changedActs[order[i]];
-                changedActs[order[i]] = 0;
-            }
-            changedCount[b] = 0;
             // Unchanged states all lead to the same classes: one of them speaks for all.
             int end = Math.min(changedEnd + 1, until[b]);
-            int groups = groupBy(world, acts, from[b], end);
+            int acts = 0;
+            for (int i = from[b]; i < end; i++) {
+                acts |= changedActs[order[i]];
+                changedActs[order[i]] = 0;
+                group[order[i]] = 0;
+            }
+            changedCount[b] = 0;
+            int groups = 1;
+            for (int a = 0; a < world.actCount; a++) {
+                if ((acts >> a & 1) != 0) {
+                    groups = regroup(world.acts[a], from[b], end);
+                }
+            }
             if (groups > 1) {
                 sortByGroup(from[b], changedEnd, groups);
                 divide(world, b, changedEnd, groups);
             }
-        }
-
-        private int groupBy(World world, int acts, int at, int end) {
-            for (int i = at; i < end; i++) {
-                group[order[i]] = 0;
-            }
-            int groups = 1;
-            for (int a = 0; a < world.actCount; a++) {
-                if ((acts >> a & 1) != 0) {
-                    groups = regroup(world.acts[a], at, end);
-                }
-            }
-            return groups;
         }
 
         /** Goes from the end, so that the unchanged one, which stands there, is of group 0. */

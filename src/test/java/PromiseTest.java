@@ -160,6 +160,15 @@ public final class PromiseTest {
         due("still 6 things", x.count(1), 6);
 
         x = new WinProofs();
+        for (int i = 0; i < 6; i++) {
+            due("thing 4", x.thing(4), i);
+        }
+        due("4096 states", x.count(0), 4096);
+        due("more states", x.thing(2), FULL);
+        due("the last state", x.start(4095), 0);
+        due("none behind it", x.start(4096), BAD);
+
+        x = new WinProofs();
         for (int i = 0; i < 8; i++) {
             due("thing 2", x.thing(2), i);
         }
@@ -746,6 +755,58 @@ public final class PromiseTest {
         dueFlaw("leads out where nothing comes", x, 2, 1, 1, 0);
     }
 
+    /** What was found is found anew when what it rests on has changed, each kind of answer by itself. */
+    private static void changesAreSeen() {
+        WinProofs x = new WinProofs();
+        due("one state is a class", x.count(9), 1);
+        due("it is reached", x.count(3), 1);
+        x.thing(2);
+        due("two states are a class", x.count(9), 1);
+        due("of 1", x.of(1, 0), NONE);
+        x.thing(4);
+        due("states of the aim", x.count(4), 8);
+        due("class of 7", x.of(7, 4), 0);
+        x.aim(1, 0, 3);
+        due("two classes", x.count(9), 2);
+        due("class of 7, of the aim", x.of(7, 4), 6);
+        due("may", x.of(0, 1), NONE);
+        x.act();
+        x.outcome(0);
+        x.effect(0, 0, 1, 2, 1);
+        x.effect(0, 1, 1, 2, 1);
+        due("may, with an act", x.of(0, 1), 3);
+        due("must, with an act", x.of(0, 2), 3);
+        due("plays", x.plays(), 8);
+        x.unact();
+        x.act();
+        x.outcome(0);
+        due("the second outcome anew is without effects", x.leads(0, 0, 1), 0);
+        due("may, without effects", x.of(0, 1), NONE);
+        x.cover();
+        due("flaw", x.flaw(0), 3);
+        x.part(0, 1, 0, 0);
+        due("flaw, with a condition", x.flaw(0), 0);
+        x.start(2);
+        due("flaw, with another start", x.flaw(0), 1);
+        x.start(0);
+        due("flaw, with the old start", x.flaw(0), 0);
+        x.effect(0, 0, 1, 2, 1);
+        due("flaw, with an effect", x.flaw(0), 2);
+        x.bare();
+        due("flaw, without parts", x.flaw(0), 1);
+        due("still reached", x.count(3), 4);
+        x.clear();
+        due("classes when cleared", x.count(9), 1);
+        due("reached when cleared", x.count(3), 1);
+        x.thing(3);
+        x.aim(0, 1, 0);
+        x.act();
+        x.outcome(0);
+        x.effect(0, 0, 0, 0, 1);
+        x.effect(0, 1, 0, 0, 2);
+        due("plays to two states of the aim", x.plays(), 2);
+    }
+
     public static void main(String[] args) {
         promise1();
         promise2();
@@ -770,6 +831,7 @@ public final class PromiseTest {
         promise22();
         promise23();
         promise24();
+        changesAreSeen();
         System.out.println("PromiseTest: " + checked + " answers looked at, " + wrong + " wrong");
         if (wrong != 0) {
             System.exit(1);
