@@ -9,8 +9,8 @@ import java.util.Map;
 
 /**
  * Each sentence of the document that names a boundary, with the call just inside it and the call just outside.
- * Every test begins with the place and the words of its sentence; at the end no word of the terms and of the
- * promises may be left that no test has named.
+ * Every test begins with the place and the words of its sentence; at the end no word of the document may be left
+ * that no test has named (but for the public face, which FaceTest reads).
  */
 public final class BoundaryTest {
     private static final int NONE = -1, BAD = -2, FULL = -3;
@@ -37,6 +37,11 @@ public final class BoundaryTest {
         if (document != null && !document.take(place, sentence)) {
             fault("the document does not say this");
         }
+    }
+
+    /** What the document leaves free has no answer that is due. */
+    private static void leavesFree(String place, String sentence) {
+        says(place, sentence);
     }
 
     /** Whatever has been refused something, and was not yet looked at since, is looked at now. */
@@ -234,8 +239,8 @@ public final class BoundaryTest {
         List<String> left() {
             List<String> left = new ArrayList<>();
             for (Map.Entry<String, StringBuilder> part : parts.entrySet()) {
-                boolean binds = part.getKey().equals("Terms") || part.getKey().startsWith("Promise ");
-                if (binds && part.getValue().toString().matches(".*\\w.*")) {
+                boolean isElsewhere = part.getKey().equals("The public face") || part.getKey().startsWith("#");
+                if (!isElsewhere && part.getValue().toString().matches(".*\\w.*")) {
                     left.add(part.getKey() + ": " + part.getValue().toString().trim());
                 }
             }
@@ -262,6 +267,33 @@ public final class BoundaryTest {
 
     // ---------------------------------------------------------------- part 1
 
+    private static void whatItIs() {
+        says("What it is", "Small worlds that may be won: things of few values, acts with conditions and outcomes "
+                + "of which nature takes one;");
+        Pair x = door();
+        x.gives("leads(0, 0, 0)", 1);
+        x.gives("leads(0, 0, 1)", 0);
+        says("What it is", "which states can be come to, where the aim may be reached, must be, is if nature is fair;");
+        dueCounts(door(), 6, 2, 2, 5, 1, 5, 1, 5, 1, 6, 0);
+        says("What it is", "shortest plays, how many, what is needed;");
+        x = door();
+        duePlay(x, new int[][] {{0, 0, 1}, {1, 0, 4}, {0, 0, 5}});
+        x.gives("plays()", 1);
+        x.gives("needed()", 3);
+        says("What it is", "covers judged as proofs that nothing wins;");
+        x = door().does("cover()", "part(0, 1, 0, 0)");
+        dueFlaw(x, 2, 1, 1, 0);
+        x.gives("of(0, 1)", 3);
+        x.does("unact()");
+        dueFlaw(x, 0, NONE, NONE, NONE);
+        x.gives("of(0, 1)", NONE);
+        says("What it is", "states that nothing tells apart. ======== 1");
+        x.does("aimless()");
+        for (int s = 0; s < 6; s++) {
+            x.gives("of(" + s + ", 4)", s % 3);
+        }
+    }
+
     private static void objects() {
         says("What it is", "An object is used for at most 512 calls after it has been made;");
         Pair x = door();
@@ -278,6 +310,14 @@ public final class BoundaryTest {
             x.gives("count(" + n % 2 + ")", n % 2 == 0 ? 6 : 2);
         }
         x.gives("plays()", 1);
+        leavesFree("What it is", "what later calls answer is free.");
+        // Whatever they answer, LANGUAGE.md's rule 7 lets none of them throw.
+        for (n = 0; n < 100; n++) {
+            answer(x.tried, "thing(" + n % 6 + ")");
+            answer(x.tried, "start(" + n % 6 + ")");
+            answer(x.tried, n % 10 == 0 ? "clear()" : "act()");
+            answer(x.tried, "of(0, " + n % 5 + ")");
+        }
     }
 
     private static void thingsAndSizes() {
@@ -1973,9 +2013,20 @@ public final class BoundaryTest {
         dueFlaw(x, 1, NONE, NONE, NONE);
     }
 
+    // ---------------------------------------------------------------- what is not promised
+
+    private static void notPromised() {
+        leavesFree("Not promised", "How the state is held inside the object is free, as are the speed of each call, "
+                + "the text of toString and the behaviour of equals and hashCode.");
+        leavesFree("Not promised", "Use of one object from several threads at once is not promised to be safe.");
+        leavesFree("Not promised", "Nothing is promised beyond the answers and state changes described above, "
+                + "and nothing about an object after its 512th call.");
+    }
+
     // ---------------------------------------------------------------- all of it
 
     private static void terms() {
+        whatItIs();
         objects();
         thingsAndSizes();
         mostStates();
@@ -2025,6 +2076,7 @@ public final class BoundaryTest {
         }
         terms();
         promises();
+        notPromised();
         endSentence();
         if (document != null) {
             named = "BoundaryTest";

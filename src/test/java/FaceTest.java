@@ -83,7 +83,19 @@ public final class FaceTest {
         Constructor<?>[] all = WinProofs.class.getDeclaredConstructors();
         due(all.length == 1 && all[0].getParameterCount() == 0 && Modifier.isPublic(all[0].getModifiers()),
                 "one constructor");
-        due(WinProofs.class.getDeclaredClasses().length <= 12, "at most twelve classes");
+        due(WinProofs.class.getDeclaredClasses().length < 12, "at most twelve classes");
+        lookAtFields(WinProofs.class);
+        for (Class<?> inner : WinProofs.class.getDeclaredClasses()) {
+            lookAtFields(inner);
+        }
+    }
+
+    private static void lookAtFields(Class<?> holder) {
+        int fields = 0;
+        for (Field f : holder.getDeclaredFields()) {
+            fields += Modifier.isStatic(f.getModifiers()) ? 0 : 1;
+        }
+        due(fields <= 20, "at most twenty fields: " + holder);
     }
 
     private static void lookAtText() throws IOException {
@@ -101,7 +113,27 @@ public final class FaceTest {
         due(methods > 50, "the methods are found, " + methods);
     }
 
+    /** The face as it is told here and as the document tells it must be the same. */
+    private static void lookAtDocument() throws IOException {
+        Path path = Path.of("../shared/DOC.md");
+        if (!Files.exists(path)) {
+            System.out.println("FaceTest: no " + path + ", so the face is not compared with it");
+            return;
+        }
+        String text = Files.readString(path);
+        String face = text.substring(text.indexOf("public final class WinProofs {"), text.indexOf("## Terms"));
+        Set<String> told = new TreeSet<>();
+        Matcher method = Pattern.compile("public (\\w+ \\w+)\\(([^)]*)\\);").matcher(face);
+        while (method.find()) {
+            told.add(method.group(1) + "(" + method.group(2).replaceAll(" \\w+(,|$)", "$1").replace(" ", "") + ")");
+        }
+        due(told.equals(new TreeSet<>(List.of(FACE))), "the document's face, which is " + told);
+        due(face.contains("public static final int NONE = -1, BAD = -2, FULL = -3;"), "the document's constants");
+        due(face.contains("public WinProofs();"), "the document's constructor");
+    }
+
     public static void main(String[] args) throws IOException, ReflectiveOperationException {
+        lookAtDocument();
         lookAtMethods();
         lookAtMembers();
         lookAtText();
